@@ -743,7 +743,6 @@ public final class EggReasons {
 
         /** How many items were read, or -1 less the place of the fault. */
         int readItems() {
-            end = 0;
             advance();
             for (int items = 1; items <= Tape.MOST_BYTES; items++) {
                 if (!readItem()) return -1 - start;

@@ -30,7 +30,7 @@ public final class BestTest {
         Check.due("18: 0 days", x.turns(0), Check.BEYOND);
         Check.due("18: 61 days", x.turns(61), Check.BEYOND);
         Check.due("18: -1 days", x.turns(-1), Check.BEYOND);
-        Check.due("18: 60 days", x.turns(60) > -2000000000 ? 1 : 0, 1);
+        Check.due("18: 60 days", x.turns(60), 12);
         Check.due("18: alone", Check.houseOf(0).turns(5), Check.NONE);
         EggReasons y = Check.houseOf(3, 3, 3, 3, 3, 3, 3, 0);
         y.house(0, 4);
@@ -50,6 +50,7 @@ public final class BestTest {
         Check.due("19: too much", x.reason(0, 1, 398), Check.NONE);
         Check.due("19: a poacher", x.reason(1, 60, 99999999), Check.NONE);
         Check.same("19: nothing changes", Check.told(x), before);
+        Check.due("19: v 0", x.reason(0, 1, 0), 0);
         Check.due("19: nobody", x.reason(2, 1, 1), Check.BEYOND);
         Check.due("19: nobody", x.reason(-1, 1, 1), Check.BEYOND);
         Check.due("19: 0 days", x.reason(0, 0, 1), Check.BEYOND);
@@ -70,6 +71,7 @@ public final class BestTest {
         x.house(0, 4);
         Check.due("20: none", x.enough(1), 0);
         Check.due("20: for two days", x.enough(2), 4);
+        Check.due("20: for 60 days", x.enough(60), 8);
         Check.due("20: 0 days", x.enough(0), Check.BEYOND);
         Check.due("20: 61 days", x.enough(61), Check.BEYOND);
         EggReasons y = Check.houseOf(2, 2, 2, 2, 2, 2, 2, 2);
@@ -129,6 +131,7 @@ public final class BestTest {
         Check.due("22: none at all", x.needs(0, 1), 0);
         x.house(0, 900);
         Check.due("22: the greatest", x.needs(0, 1), 20);
+        Check.due("22: the greatest on 60 days", x.needs(0, 60), 20);
         Check.due("22: nobody", x.needs(2, 1), Check.BEYOND);
         Check.due("22: nobody", x.needs(-1, 1), Check.BEYOND);
         Check.due("22: 0 days", x.needs(0, 0), Check.BEYOND);
@@ -210,6 +213,10 @@ public final class BestTest {
         x.house(0, 999);
         x.house(1, 99);
         Check.due("24: on 100", x.most(100), 2);
+        for (int i = 3; i < 8; i++) x.person(1);
+        Check.due("24: of eight", x.most(0), 0);
+        x.set(7, 4, 99999);
+        Check.due("24: the eighth", x.most(100), 7);
         Check.due("24: -1", x.most(-1), Check.BEYOND);
         Check.due("24: 101", x.most(101), Check.BEYOND);
     }

@@ -60,6 +60,12 @@ public final class HouseAndPeopleTest {
         Check.due("3: broke", x.now(6), 12);
         Check.due("3: -1", x.now(-1), Check.BEYOND);
         Check.due("3: 7", x.now(7), Check.BEYOND);
+        EggReasons y = Check.houseOf(1, 1, 1, 1, 1, 1, 1, 1);
+        y.set(0, 3, 99);
+        y.set(7, 3, 1);
+        for (int i = 0; i < 8; i++) y.set(i, 4, 99999);
+        Check.due("3: watched of eight", y.now(5), 129);
+        Check.due("3: broke of eight", y.now(6), 799992);
         x.house(0, 0);
         x.house(1, 0);
         x.days(2);

@@ -95,6 +95,16 @@ public final class SheetsAndImagesTest {
         Check.due("30: none", x.copy(0, 6, 1, 3, 0), 0);
         Check.due("30: all onto themselves", x.copy(0, 0, 0, 0, 6), 6);
         dueRow("30: as they were", x, 0, 1, 2, 3, 4, 5, 5);
+        x.sheet(3, 16, 40);
+        for (int i = 0; i < 40; i++) x.write(3, i, 100 + i);
+        Check.due("30: to a lower one", x.copy(3, 36, 1, 0, 3), 3);
+        dueRow("30: to a lower one", x, 1, 136, 137, 138);
+        Check.due("30: to a higher one", x.copy(1, 1, 3, 38, 2), 2);
+        dueRow("30: to a higher one", x, 3, 100, 101, 102);
+        Check.due("30: the one before", x.write(3, 37, 0), 137);
+        Check.due("30: the last but one", x.write(3, 38, 0), 137);
+        Check.due("30: the last", x.write(3, 39, 0), 138);
+        Check.due("30: none behind the last", x.copy(3, 40, 3, 40, 0), 0);
         Check.due("30: no finding", x.status(-1), 0);
     }
 
@@ -212,8 +222,13 @@ public final class SheetsAndImagesTest {
         Check.same("35: and goes on as before", Check.told(x), second);
         x.image();
         x.days(3);
+        x.person(5);
+        x.set(2, 3, 9);
         x.undo();
         Check.same("35: the latest", Check.told(x), second);
+        x.person(1);
+        Check.due("35: one more is as at first", x.of(2, 3), 0);
+        x.undo();
         Check.due("36: tear", x.tear(), 1);
         Check.due("36: nothing to tear", x.tear(), 0);
         Check.due("35: torn", x.undo(), Check.NONE);
@@ -244,6 +259,9 @@ public final class SheetsAndImagesTest {
         x.feed(1, 2);
         int[] want = {3, 2, 2, 109};
         for (int what = 0; what < 4; what++) Check.due("37: what " + what, x.count(what), want[what]);
+        for (int i = 3; i < 8; i++) x.person(0);
+        Check.due("37: reasons of eight", x.count(3), 134);
+        Check.due("37: watched of eight", x.count(2), 2);
         Check.due("37: what 4", x.count(4), Check.BEYOND);
         Check.due("37: what -1", x.count(-1), Check.BEYOND);
     }

@@ -109,6 +109,24 @@ public final class TextTest {
         fault("cook eggs 5", 5);
         fault("reason", 0);
         fault("cook need 3", 5);
+        fault("cookz", 0);
+        fault("acook", 0);
+        fault("look", 0);
+        fault("toy", 0);
+        fault("begs 1", 0);
+        fault("paid 1", 0);
+        fault("cook seeds 1", 5);
+        fault("eggs 1:", 6);
+        fault("eggs 1/", 6);
+        fault("eggs /", 5);
+        fault("cook{", 4);
+        fault("`cook", 0);
+        fault("cook\0", 4);
+        fault("\0", 0);
+        fault("cook\n;boy", 4);
+        fault("cook\u00a0", 4);
+        fault("cook\u00ff", 4);
+        fault("c\u00e9", 0);
     }
 
     private static void tooEarly() {
