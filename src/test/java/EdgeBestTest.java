@@ -167,6 +167,13 @@ public final class EdgeBestTest {
         return x;
     }
 
+    private static EggReasons leader(int eggs) {
+        EggReasons x = Check.houseOf(5);
+        x.house(0, eggs - 1);
+        x.house(1, 1);
+        return x;
+    }
+
     private static void needs() {
         new Edge("22", () -> behind(39, 1, 0)).asked("half of 40", x -> x.needs(0, 1), 20);
         new Edge("22", () -> behind(38, 1, 0)).asked("half of 39", x -> x.needs(0, 1), 19);
@@ -175,6 +182,9 @@ public final class EdgeBestTest {
         new Edge("22", () -> behind(39, 1, 20)).asked("none and 20 of 40", x -> x.needs(0, 1), 0);
         new Edge("22", () -> behind(38, 1, 20)).refused("20 of 39", Check.NONE, x -> x.needs(0, 1));
         new Edge("22", () -> behind(5, 0, 20)).asked("LAID can't be less", x -> x.needs(0, 1), 20);
+        // A leader without a need wants twelve on DAY 0: half of 24, and too many of 23, of which 11 would do.
+        new Edge("22", () -> leader(24)).asked("12 of 24 without a need", x -> x.needs(0, 1), 0);
+        new Edge("22", () -> leader(23)).refused("no NEED is below 0", Check.NONE, x -> x.needs(0, 1));
         Edge many = new Edge("22", () -> behind(999, 99, 0));
         many.asked("the most for 60 days", x -> x.needs(0, 60), 20);
         many.outside("n", 1, 60, (x, n) -> x.needs(0, n));

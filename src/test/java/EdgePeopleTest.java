@@ -210,6 +210,8 @@ public final class EdgePeopleTest {
         e.asked("a pupil as itself", x -> x.as(1, 4), 7);
         e.asked("a pupil as a boy", x -> x.as(1, 1), 7);
         e.asked("a pupil as a cook", x -> x.as(1, 0), 7);
+        e.asked("a leader as a cook", x -> x.as(2, 0), 5);
+        e.asked("a leader as itself", x -> x.as(2, 5), 5);
         e.asked("a leader as a rebel", x -> x.as(2, 2), 5);
         e.refused("a cook as a boy", Check.KIND, x -> x.as(0, 1));
         e.refused("a cook as a leader", Check.KIND, x -> x.as(0, 5));
@@ -226,6 +228,8 @@ public final class EdgePeopleTest {
         boy.refused("a boy as one below it", Check.KIND, x -> x.as(0, 4));
         boy.refused("a rebel as one below it", Check.KIND, x -> x.as(1, 5));
         boy.refused("a poacher as one beside it", Check.KIND, x -> x.as(2, 1));
+        boy.asked("a boy as a cook", x -> x.as(0, 0), 5);
+        boy.asked("a rebel as a cook", x -> x.as(1, 0), 5);
         boy.asked("a poacher as a cook", x -> x.as(2, 0), 5);
     }
 

@@ -7,6 +7,7 @@ public final class EdgeTextTest {
         feedFull();
         feedBytes();
         wipe();
+        words();
         everyByte();
         numbers();
         longTexts();
@@ -101,6 +102,28 @@ public final class EdgeTextTest {
             Check.due("27: eggs, byte " + b + ", 1", read("eggs", b, "1"), between);
             int betweenItems = b == 59 ? 2 : isLetter ? -1 : b == 32 ? -6 : -5;
             Check.due("27: cook, byte " + b + ", boy", read("cook", b, "boy"), betweenItems);
+        }
+    }
+
+    /** Each word just as it is, one letter short at either end, one letter more, and one letter off. */
+    private static void words() {
+        String[] words = {"cook", "boy", "rebel", "poacher", "pupil", "leader", "eggs", "laid", "needs", "reason", "watched"};
+        for (int i = 0; i < words.length; i++) {
+            String ahead = i < 8 ? "" : "cook ";
+            String behind = i < 6 ? "" : " 1";
+            EggReasons x = new EggReasons();
+            Check.feed(x, ahead + words[i] + behind);
+            Check.due("27: " + words[i], x.text(), 1);
+            if (i < 6) Check.due("27: KIND of " + words[i], x.of(0, 0), i);
+            int fault = -1 - ahead.length();
+            for (int at = 0; at < words[i].length(); at++) {
+                String off = words[i].substring(0, at) + 'z' + words[i].substring(at + 1);
+                Check.due("27: " + off, read(ahead + off + behind), fault);
+            }
+            String[] others = {words[i].substring(1), words[i].substring(0, words[i].length() - 1), words[i] + "s", "a" + words[i],
+                words[i] + words[i]};
+            for (String other : others) Check.due("27: " + other, read(ahead + other + behind), fault);
+            Check.due("27: in capitals, " + words[i], read(ahead + words[i].toUpperCase(java.util.Locale.ROOT) + behind), fault);
         }
     }
 
